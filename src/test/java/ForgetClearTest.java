@@ -6,6 +6,7 @@ public final class ForgetClearTest {
         forgetLeavesCellsAndTables();
         clearAnswersTheCells();
         clearEmptiesEverything();
+        cellsAfterClearAreNew();
         clearKeepsTheVariables();
         Due.finish();
     }
@@ -95,6 +96,23 @@ public final class ForgetClearTest {
         Due.due("solve", x.solve(), 1);
         Due.due("its value", x.valueOf(0, 1), 8);
         Due.due("variable 0 plays no part", x.valueOf(0, 0), FreezeDif.BAD);
+    }
+
+    private static void cellsAfterClearAreNew() {
+        FreezeDif x = new FreezeDif(2);
+        x.variable(0);
+        x.variable(1);
+        x.pair(0, 1);
+        x.clear();
+        x.atom(4);
+        x.atom(5);
+        Due.due("where a pair was", x.atom(6), 2);
+        Due.due("no variable is in the new cells", x.addRow(0, 0, 2), 0);
+        Due.due("their size is 1", x.pair(2, 2), 3);
+        for (int i = 4; i < 9; i++) {
+            Due.due("up to size 13", x.pair(i - 1, 2), i);
+        }
+        Due.due("size 15", x.pair(8, 2), FreezeDif.BAD);
     }
 
     private static void clearKeepsTheVariables() {

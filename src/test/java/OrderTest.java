@@ -46,7 +46,7 @@ public final class OrderTest {
         }
     }
 
-    /** Calls that answer BAD or FULL, one for every number from 0 to 17, and what is due. */
+    /** Calls that answer BAD or FULL, one for every number from 0 to 16. */
     private static void refused(FreezeDif x, int which) {
         switch (which) {
             case 0: Due.due("atom", x.atom(16), FreezeDif.BAD); break;

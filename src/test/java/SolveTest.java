@@ -7,7 +7,9 @@ public final class SolveTest {
         queriesThatAreNotLoose();
         looseThenMended();
         cellsLeaveAQuerySolved();
+        everyPlaceCanBeLoose();
         theMostSolutions();
+        groundGoals();
         Due.finish();
     }
 
@@ -108,22 +110,76 @@ public final class SolveTest {
         Due.due("value", x.valueOf(1, 1), 3);
     }
 
+    private static void everyPlaceCanBeLoose() {
+        for (int at = 0; at < 4; at++) {
+            FreezeDif x = Make.withRows(2);
+            for (int i = 0; i < 4; i++) {
+                x.freeze(i == at ? 1 : 0, 0, 3, 1);
+            }
+            loose(x, "frozen goal " + at);
+            x.goal(0, 3, 1);
+            for (int i = 0; i < 4; i++) {
+                x.equal(3, i == at ? 4 : 3);
+            }
+            loose(x, "equation " + at);
+        }
+        for (int at = 0; at < 6; at++) {
+            FreezeDif x = Make.withRows(2);
+            x.goal(0, 3, 1);
+            for (int i = 0; i < 6; i++) {
+                x.differ(i == at ? 4 : 3, 2);
+            }
+            loose(x, "disequality " + at);
+        }
+        FreezeDif x = Make.withRows(3);
+        x.freeze(1, 0, 3, 1);
+        x.equal(3, 3);
+        x.differ(3, 2);
+        loose(x, "the freezing, with an equation and a disequality that are not");
+        x.goal(0, 3, 1);
+        x.equal(4, 4);
+        x.differ(3, 2);
+        loose(x, "the equation, with a disequality that is not");
+    }
+
     private static void theMostSolutions() {
-        FreezeDif x = Make.withCells(6);
+        FreezeDif x = new FreezeDif(6);
+        for (int k = 0; k < 6; k++) {
+            x.atom(k);
+        }
         for (int row = 0; row < 6; row++) {
-            x.addRow(2, row / 3, row % 3);
+            x.addRow(2, 0, row);
         }
-        x.goal(2, 3, 4);
-        x.goal(2, 5, 6);
-        x.goal(2, 7, 8);
-        x.goal(2, x.variable(0), x.variable(1));
-        Due.due("goal 3 says what goal 0 does", x.solve(), 216);
-        x.forget();
-        int row = 0;
         for (int g = 0; g < 4; g++) {
-            x.goal(2, 0, row);
+            x.goal(2, 0, x.variable(g + 2));
         }
-        Due.due("ground goals with one row each", x.solve(), 1);
-        Due.due("its row", x.rowOf(0, 3), 0);
+        Due.due("every choice is a solution", x.solve(), 1296);
+        Due.due("solutions", x.solutions(), 1296);
+        int[] picked = {0, 1, 215, 216, 700, 1294, 1295};
+        for (int k : picked) {
+            int weight = 216;
+            for (int g = 0; g < 4; g++) {
+                Due.due("row of " + k, x.rowOf(k, g), k / weight % 6);
+                Due.due("value of " + k, x.valueOf(k, g + 2), k / weight % 6 + 1);
+                weight /= 6;
+            }
+        }
+        Due.due("one too many", x.rowOf(1296, 0), FreezeDif.BAD);
+        Due.due("the last two, variable 4", x.alike(1294, 1295, 16), true);
+        Due.due("the last two, variable 5", x.alike(1294, 1295, 32), false);
+    }
+
+    private static void groundGoals() {
+        FreezeDif x = Make.withRows(1);
+        for (int g = 0; g < 4; g++) {
+            x.goal(0, g % 3, (g + 1) % 3);
+        }
+        Due.due("one row each", x.solve(), 1);
+        for (int g = 0; g < 4; g++) {
+            Due.due("goal " + g, x.rowOf(0, g), g % 3);
+        }
+        x.forget();
+        x.goal(0, 0, 0);
+        Due.due("no such row", x.solve(), 0);
     }
 }
