@@ -1,42 +1,81 @@
-/** Promise 2. */
+/** Promise 2. Each test stands for the sentence, or the part of one, that is written over it. */
 public final class AtomTest {
     public static void main(String[] args) {
-        everyAtomHasACell();
-        wrongNumbers();
+        everyAtomIsTaken();
+        numbersOutside();
+        theLastCell();
+        cellsOfAllKindsCount();
         fullIsTestedFirst();
+        everyCallMakesANewCell();
         Due.finish();
     }
 
-    private static void everyAtomHasACell() {
+    /** "Else answers the new cell's number", for every k of 0..15. */
+    private static void everyAtomIsTaken() {
         FreezeDif x = new FreezeDif(1);
         for (int k = 0; k < 16; k++) {
             Due.due("atom " + k, x.atom(k), k);
         }
-        Due.due("an atom that is there", x.atom(3), 16);
-        Due.due("the same one again", x.atom(3), 17);
-        Due.due("it is the same term", x.equal(3, 17), 1);
-        Due.due("solve", x.solve(), 1);
-        Due.due("another atom is another term", x.equal(3, 4), 2);
-        Due.due("solve", x.solve(), 0);
+        for (int k = 1; k < 16; k++) {
+            x.forget();
+            x.equal(k - 1, k);
+            Due.due("atoms " + (k - 1) + " and " + k + " are not the same", x.solve(), 0);
+        }
     }
 
-    private static void wrongNumbers() {
-        FreezeDif x = new FreezeDif(1);
-        int[] wrong = {-1, 16, 17, 1000, Integer.MIN_VALUE, Integer.MAX_VALUE};
-        for (int k : wrong) {
+    /** "k outside 0..15: BAD", and no cell is made. */
+    private static void numbersOutside() {
+        for (int k : Make.outside(0, 15)) {
+            FreezeDif x = new FreezeDif(1);
             Due.due("atom " + k, x.atom(k), FreezeDif.BAD);
+            Due.due("cells", x.clear(), 0);
+            Due.due("the first cell", x.atom(15), 0);
+            Due.due("atom " + k + ", one cell there", x.atom(k), FreezeDif.BAD);
+            Due.due("cells", x.clear(), 1);
         }
-        Due.due("no cell was made", x.atom(15), 0);
     }
 
-    private static void fullIsTestedFirst() {
-        FreezeDif x = new FreezeDif(1);
-        for (int i = 0; i < 48; i++) {
-            Due.due("cell " + i, x.atom(i % 16), i);
+    /** "48 cells are there: FULL", and with 47 there is room for one more. */
+    private static void theLastCell() {
+        int[] numbers = {0, 7, 15};
+        for (int k : numbers) {
+            FreezeDif x = Make.atoms(1, 46);
+            Due.due("the 47th cell", x.atom(k), 46);
+            Due.due("the 48th cell", x.atom(k), 47);
+            Due.due("the 49th cell", x.atom(k), FreezeDif.FULL);
+            Due.due("the 49th cell again", x.atom(k), FreezeDif.FULL);
+            Due.due("cells", x.clear(), 48);
+            Due.due("the first cell after clear", x.atom(k), 0);
         }
-        Due.due("the 49th cell", x.atom(0), FreezeDif.FULL);
-        Due.due("full and wrong", x.atom(16), FreezeDif.FULL);
-        Due.due("full and wrong", x.atom(-1), FreezeDif.FULL);
+    }
+
+    /** "48 cells are there", of whatever kind. */
+    private static void cellsOfAllKindsCount() {
+        FreezeDif x = Make.mixedCells(47);
+        Due.due("47 mixed cells there", x.atom(0), 47);
+        Due.due("48 mixed cells there", x.atom(0), FreezeDif.FULL);
         Due.due("cells", x.clear(), 48);
+    }
+
+    /** "Tested in this order": a full object answers FULL for a wrong k too; one cell less, BAD. */
+    private static void fullIsTestedFirst() {
+        for (int k : Make.outside(0, 15)) {
+            FreezeDif x = Make.atoms(1, 47);
+            Due.due("47 cells, atom " + k, x.atom(k), FreezeDif.BAD);
+            Due.due("the 48th cell", x.atom(0), 47);
+            Due.due("48 cells, atom " + k, x.atom(k), FreezeDif.FULL);
+            Due.due("cells", x.clear(), 48);
+        }
+    }
+
+    /** "Every call makes a new cell, also for an atom that is there." */
+    private static void everyCallMakesANewCell() {
+        FreezeDif x = new FreezeDif(1);
+        for (int cell = 0; cell < 48; cell++) {
+            Due.due("the same atom again", x.atom(3), cell);
+        }
+        x.equal(0, 47);
+        x.equal(47, 24);
+        Due.due("they are the same term", x.solve(), 1);
     }
 }

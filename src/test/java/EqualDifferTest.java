@@ -1,12 +1,17 @@
-/** Promises 8 and 9: what equations and disequalities have in common is tested for both. */
+/**
+ * Promises 8 and 9: what equations and disequalities have in common is tested for both. Each test
+ * stands for the sentence, or the part of one, that is written over it.
+ */
 public final class EqualDifferTest {
     public static void main(String[] args) {
         for (int kind = 0; kind < 2; kind++) {
-            theyAreCounted(kind == 1);
-            wrongArguments(kind == 1);
-            badIsTestedBeforeFull(kind == 1);
-            aSolvedQueryBecomesUnsolved(kind == 1);
-            everyOneMustHold(kind == 1);
+            boolean differ = kind == 1;
+            theyAreCounted(differ);
+            termsThatAreNoCells(differ);
+            badIsTestedBeforeFull(differ);
+            aSolvedQueryBecomesUnsolved(differ);
+            aRefusedOneLeavesASolvedQuery(differ);
+            everyOneMustHold(differ);
         }
         theyAreCountedApart();
         equationsBetweenValues();
@@ -23,69 +28,94 @@ public final class EqualDifferTest {
         return differ ? 6 : 4;
     }
 
+    /** "answers the number of equations that there are now"; "4 (6) are there: FULL". */
     private static void theyAreCounted(boolean differ) {
         FreezeDif x = Make.withCells(1);
         for (int n = 1; n <= most(differ); n++) {
             Due.due("number " + n, add(x, differ, 0, 3), n);
         }
         Due.due("one too many", add(x, differ, 0, 3), FreezeDif.FULL);
+        Due.due("and again", add(x, differ, 3, 3), FreezeDif.FULL);
         Due.due("they are no goals", x.forget(), 0);
-        Due.due("the first after forget", add(x, differ, 0, 3), 1);
-    }
-
-    private static void wrongArguments(boolean differ) {
-        FreezeDif x = Make.withCells(1);
-        Due.due("x is the next cell", add(x, differ, 4, 0), FreezeDif.BAD);
-        Due.due("y is the next cell", add(x, differ, 0, 4), FreezeDif.BAD);
-        for (int wild : Make.WILD) {
-            Due.due("x is " + wild, add(x, differ, wild, 0), FreezeDif.BAD);
-            Due.due("y is " + wild, add(x, differ, 0, wild), FreezeDif.BAD);
+        for (int n = 1; n <= most(differ); n++) {
+            Due.due("after forget, number " + n, add(x, differ, 3, 3), n);
         }
-        Due.due("none was added", add(x, differ, 0, 0), 1);
+        Due.due("one too many", add(x, differ, 0, 0), FreezeDif.FULL);
     }
 
+    /** "x or y no cell's number: BAD", and the last cell's number is taken. */
+    private static void termsThatAreNoCells(boolean differ) {
+        int[] counts = {1, 2, 47, 48};
+        for (int count : counts) {
+            for (int wrong : Make.outside(0, count - 1)) {
+                FreezeDif x = Make.atoms(1, count);
+                Due.due(count + " cells, x " + wrong, add(x, differ, wrong, 0), FreezeDif.BAD);
+                Due.due(count + " cells, y " + wrong, add(x, differ, 0, wrong), FreezeDif.BAD);
+                Due.due(count + " cells, both", add(x, differ, wrong, wrong), FreezeDif.BAD);
+                Due.due("the last cell", add(x, differ, count - 1, count - 1), 1);
+            }
+        }
+        for (int wrong : Make.outside(0, -1)) {
+            FreezeDif x = new FreezeDif(1);
+            Due.due("no cells, " + wrong, add(x, differ, wrong, wrong), FreezeDif.BAD);
+        }
+    }
+
+    /** Promise 17: "equal and differ: BAD is tested before FULL." */
     private static void badIsTestedBeforeFull(boolean differ) {
         FreezeDif x = Make.withCells(1);
         for (int n = 0; n < most(differ); n++) {
             add(x, differ, 0, 0);
         }
-        Due.due("full, x wrong", add(x, differ, 4, 0), FreezeDif.BAD);
-        Due.due("full, y wrong", add(x, differ, 0, -1), FreezeDif.BAD);
-        Due.due("full", add(x, differ, 0, 0), FreezeDif.FULL);
+        for (int wrong : Make.outside(0, 3)) {
+            Due.due("full, x " + wrong, add(x, differ, wrong, 0), FreezeDif.BAD);
+            Due.due("full, y " + wrong, add(x, differ, 0, wrong), FreezeDif.BAD);
+            Due.due("full, both " + wrong, add(x, differ, wrong, wrong), FreezeDif.BAD);
+        }
+        Due.due("full, all in order", add(x, differ, 0, 0), FreezeDif.FULL);
     }
 
+    /** "If the query is solved it becomes unsolved." */
     private static void aSolvedQueryBecomesUnsolved(boolean differ) {
-        FreezeDif x = Make.solved(2);
-        int holding = differ ? 4 : 3;
-        Due.due("a wrong one", add(x, differ, 5, 3), FreezeDif.BAD);
-        Due.due("still solved", x.solutions(), 3);
-        Due.due("one that always holds", add(x, differ, 3, holding), 1);
-        Due.due("unsolved", x.solutions(), FreezeDif.UNSOLVED);
-        for (int n = 1; n < most(differ); n++) {
-            add(x, differ, 3, holding);
+        for (State state : State.values()) {
+            if (!state.isSolved() || state.isFull()) {
+                continue;
+            }
+            FreezeDif x = state.make();
+            Due.due(state + ", solutions before", x.solutions(), state.solutions());
+            Due.due(state + ", one more", add(x, differ, 0, differ ? 1 : 0) >= 1, true);
+            Due.due(state + ", unsolved", x.solutions(), FreezeDif.UNSOLVED);
+            Due.due(state + ", rowOf", x.rowOf(0, 0), FreezeDif.UNSOLVED);
+            Due.due(state + ", valueOf", x.valueOf(0, 0), FreezeDif.UNSOLVED);
+            Due.due(state + ", alike", x.alike(0, 0, 0), false);
+            Due.due(state + ", solve", x.solve(), state.solutions());
         }
-        Due.due("solve", x.solve(), 3);
-        Due.due("one too many", add(x, differ, 3, holding), FreezeDif.FULL);
+    }
+
+    /** Promise 17: "a solved query stays solved" where the equation or disequality is refused. */
+    private static void aRefusedOneLeavesASolvedQuery(boolean differ) {
+        FreezeDif x = Make.solved(2);
+        Due.due("no such x", add(x, differ, 5, 3), FreezeDif.BAD);
+        Due.due("no such y", add(x, differ, 3, -1), FreezeDif.BAD);
         Due.due("still solved", x.solutions(), 3);
+        x = State.FULL_SOLVED.make();
+        Due.due("full", add(x, differ, 0, differ ? 0 : 1), FreezeDif.FULL);
+        Due.due("still solved", x.solutions(), State.FULL_SOLVED.solutions());
     }
 
     private static void everyOneMustHold(boolean differ) {
         int holding = differ ? 1 : 0;
         int failing = differ ? 0 : 1;
-        for (int broken = 0; broken < most(differ); broken++) {
+        for (int broken = -1; broken < most(differ); broken++) {
             FreezeDif x = Make.withCells(1);
             for (int n = 0; n < most(differ); n++) {
                 add(x, differ, 0, n == broken ? failing : holding);
             }
-            Due.due("number " + broken + " does not hold", x.solve(), 0);
+            Due.due("number " + broken + " does not hold", x.solve(), broken < 0 ? 1 : 0);
         }
-        FreezeDif x = Make.withCells(1);
-        for (int n = 0; n < most(differ); n++) {
-            add(x, differ, 0, holding);
-        }
-        Due.due("all hold", x.solve(), 1);
     }
 
+    /** Equations, disequalities and goals each have a limit of their own. */
     private static void theyAreCountedApart() {
         FreezeDif x = Make.withCells(1);
         for (int n = 1; n <= 4; n++) {
@@ -94,7 +124,16 @@ public final class EqualDifferTest {
         }
         Due.due("equations are full", x.equal(0, 0), FreezeDif.FULL);
         Due.due("disequalities are not", x.differ(0, 1), 5);
-        Due.due("goals are not", x.goal(0, 0, 0), 0);
+        Due.due("disequalities are not", x.differ(0, 1), 6);
+        Due.due("disequalities are full", x.differ(0, 1), FreezeDif.FULL);
+        for (int g = 0; g < 4; g++) {
+            Due.due("goals are not", x.goal(0, 0, 0), g);
+        }
+        x.forget();
+        for (int n = 1; n <= 6; n++) {
+            x.differ(0, 1);
+        }
+        Due.due("disequalities are full, equations not", x.equal(0, 0), 1);
     }
 
     private static void equationsBetweenValues() {

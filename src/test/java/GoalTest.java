@@ -1,18 +1,24 @@
-/** Promises 6 and 7: what plain and frozen goals have in common is tested for both. */
+/**
+ * Promises 6 and 7: what plain and frozen goals have in common is tested for both. Each test stands
+ * for the sentence, or the part of one, that is written over it.
+ */
 public final class GoalTest {
     public static void main(String[] args) {
-        for (int frozen = 0; frozen < 2; frozen++) {
-            goalsAreNumbered(frozen == 1);
-            wrongArguments(frozen == 1);
-            badIsTestedBeforeFull(frozen == 1);
-            aSolvedQueryBecomesUnsolved(frozen == 1);
-            goalsPickFromTheirTable(frozen == 1);
-            repeatedVariables(frozen == 1);
-            pairsInGoals(frozen == 1);
+        for (int kind = 0; kind < 2; kind++) {
+            boolean frozen = kind == 1;
+            tablesOutside(frozen);
+            termsThatAreNoCells(frozen);
+            fourGoalsAndNoMore(frozen);
+            badIsTestedBeforeFull(frozen);
+            aSolvedQueryBecomesUnsolved(frozen);
+            aRefusedGoalLeavesASolvedQuery(frozen);
+            goalsPickFromTheirTable(frozen);
+            repeatedVariables(frozen);
+            pairsInGoals(frozen);
         }
+        variablesOutside();
+        aVariableWithoutACell();
         plainAndFrozenAreNumberedTogether();
-        wrongVariables();
-        freezingChangesNoAnswer();
         Due.finish();
     }
 
@@ -21,53 +27,93 @@ public final class GoalTest {
         return frozen ? x.freeze(0, table, left, right) : x.goal(table, left, right);
     }
 
-    private static void goalsAreNumbered(boolean frozen) {
-        FreezeDif x = Make.withCells(1);
-        for (int g = 0; g < 4; g++) {
-            Due.due("goal " + g, add(x, frozen, g, 0, 3), g);
-        }
-        Due.due("goal 4", add(x, frozen, 0, 0, 3), FreezeDif.FULL);
-        Due.due("goals", x.forget(), 4);
-    }
-
-    private static void wrongArguments(boolean frozen) {
-        FreezeDif x = Make.withCells(1);
-        int[] tables = {-1, 4, 5, 1000, Integer.MIN_VALUE, Integer.MAX_VALUE};
-        for (int table : tables) {
+    /** "table outside 0..3: BAD", and 0 to 3 are taken. */
+    private static void tablesOutside(boolean frozen) {
+        for (int table : Make.outside(0, 3)) {
+            FreezeDif x = Make.withCells(1);
             Due.due("table " + table, add(x, frozen, table, 0, 0), FreezeDif.BAD);
+            Due.due("no goal was added", x.forget(), 0);
+            for (int g = 0; g < 4; g++) {
+                Due.due("table " + g, add(x, frozen, g, 0, 0), g);
+            }
         }
-        Due.due("x is the next cell", add(x, frozen, 0, 4, 0), FreezeDif.BAD);
-        Due.due("y is the next cell", add(x, frozen, 0, 0, 4), FreezeDif.BAD);
-        for (int wild : Make.WILD) {
-            Due.due("x is " + wild, add(x, frozen, 0, wild, 0), FreezeDif.BAD);
-            Due.due("y is " + wild, add(x, frozen, 0, 0, wild), FreezeDif.BAD);
-        }
-        Due.due("no goal was added", x.forget(), 0);
     }
 
+    /** "x or y no cell's number: BAD", and the last cell's number is taken. */
+    private static void termsThatAreNoCells(boolean frozen) {
+        int[] counts = {1, 2, 47, 48};
+        for (int count : counts) {
+            for (int wrong : Make.outside(0, count - 1)) {
+                FreezeDif x = Make.atoms(1, count);
+                Due.due(count + " cells, x " + wrong, add(x, frozen, 0, wrong, 0), FreezeDif.BAD);
+                Due.due(count + " cells, y " + wrong, add(x, frozen, 0, 0, wrong), FreezeDif.BAD);
+                Due.due(count + " cells, both", add(x, frozen, 0, wrong, wrong), FreezeDif.BAD);
+                Due.due("no goal was added", x.forget(), 0);
+                Due.due("the last cell", add(x, frozen, 0, count - 1, count - 1), 0);
+            }
+        }
+        for (int wrong : Make.outside(0, -1)) {
+            FreezeDif x = new FreezeDif(1);
+            Due.due("no cells, " + wrong, add(x, frozen, 0, wrong, wrong), FreezeDif.BAD);
+        }
+    }
+
+    /** "4 goals are there: FULL"; with 3 there is room for one more. */
+    private static void fourGoalsAndNoMore(boolean frozen) {
+        for (int table = 0; table < 4; table++) {
+            FreezeDif x = Make.withCells(1);
+            for (int g = 0; g < 4; g++) {
+                Due.due("goal " + g, add(x, frozen, table, g, 3), g);
+            }
+            Due.due("one more", add(x, frozen, table, 0, 3), FreezeDif.FULL);
+            Due.due("one more in another table", add(x, frozen, 3 - table, 0, 0), FreezeDif.FULL);
+            Due.due("goals", x.forget(), 4);
+            Due.due("room again", add(x, frozen, table, 0, 3), 0);
+        }
+    }
+
+    /** Promise 17: "goal, freeze ...: BAD is tested before FULL." */
     private static void badIsTestedBeforeFull(boolean frozen) {
         FreezeDif x = Make.withCells(1);
         for (int g = 0; g < 4; g++) {
             add(x, frozen, 0, 3, 3);
         }
-        Due.due("full, table wrong", add(x, frozen, 4, 0, 0), FreezeDif.BAD);
-        Due.due("full, x wrong", add(x, frozen, 0, 4, 0), FreezeDif.BAD);
-        Due.due("full, y wrong", add(x, frozen, 0, 0, -1), FreezeDif.BAD);
-        Due.due("full", add(x, frozen, 0, 0, 0), FreezeDif.FULL);
+        for (int wrong : Make.outside(0, 3)) {
+            Due.due("full, table " + wrong, add(x, frozen, wrong, 0, 0), FreezeDif.BAD);
+            Due.due("full, x " + wrong, add(x, frozen, 0, wrong, 0), FreezeDif.BAD);
+            Due.due("full, y " + wrong, add(x, frozen, 0, 0, wrong), FreezeDif.BAD);
+            Due.due("full, all " + wrong, add(x, frozen, wrong, wrong, wrong), FreezeDif.BAD);
+        }
+        Due.due("full, all in order", add(x, frozen, 0, 0, 0), FreezeDif.FULL);
+        Due.due("goals", x.forget(), 4);
     }
 
+    /** "If the query is solved it becomes unsolved." */
     private static void aSolvedQueryBecomesUnsolved(boolean frozen) {
+        for (State state : State.values()) {
+            if (!state.isSolved() || state.isFull()) {
+                continue;
+            }
+            FreezeDif x = state.make();
+            Due.due(state + ", solutions before", x.solutions(), state.solutions());
+            Due.due(state + ", a goal", add(x, frozen, 3, 3, 4) >= 0, true);
+            Due.due(state + ", unsolved", x.solutions(), FreezeDif.UNSOLVED);
+            Due.due(state + ", rowOf", x.rowOf(0, 0), FreezeDif.UNSOLVED);
+            Due.due(state + ", valueOf", x.valueOf(0, 0), FreezeDif.UNSOLVED);
+            Due.due(state + ", alike", x.alike(0, 0, 0), false);
+        }
+    }
+
+    /** Promise 17: "a solved query stays solved" where the goal is refused. */
+    private static void aRefusedGoalLeavesASolvedQuery(boolean frozen) {
         FreezeDif x = Make.solved(2);
-        Due.due("a wrong goal", add(x, frozen, 4, 3, 4), FreezeDif.BAD);
+        Due.due("no such table", add(x, frozen, 4, 3, 4), FreezeDif.BAD);
+        Due.due("no such x", add(x, frozen, 0, 5, 4), FreezeDif.BAD);
+        Due.due("no such y", add(x, frozen, 0, 3, 5), FreezeDif.BAD);
         Due.due("still solved", x.solutions(), 3);
-        Due.due("a goal", add(x, frozen, 0, 3, 4), 1);
-        Due.due("unsolved", x.solutions(), FreezeDif.UNSOLVED);
-        Due.due("solve", x.solve(), 3);
-        add(x, frozen, 0, 3, 4);
-        add(x, frozen, 0, 3, 4);
-        x.solve();
-        Due.due("one too many", add(x, frozen, 0, 3, 4), FreezeDif.FULL);
-        Due.due("still solved", x.solutions(), 3);
+        x = State.FULL_SOLVED.make();
+        Due.due("full", add(x, frozen, 0, 3, 3), FreezeDif.FULL);
+        Due.due("still solved", x.solutions(), State.FULL_SOLVED.solutions());
     }
 
     private static void goalsPickFromTheirTable(boolean frozen) {
@@ -108,45 +154,45 @@ public final class GoalTest {
         Due.due("variable 1", x.valueOf(0, 1), 2);
     }
 
-    private static void plainAndFrozenAreNumberedTogether() {
-        FreezeDif x = Make.withCells(2);
-        Due.due("plain", x.goal(0, 3, 4), 0);
-        Due.due("frozen", x.freeze(1, 0, 3, 4), 1);
-        Due.due("plain", x.goal(1, 3, 4), 2);
-        Due.due("frozen", x.freeze(0, 1, 3, 4), 3);
-        Due.due("plain, full", x.goal(0, 3, 4), FreezeDif.FULL);
-        Due.due("frozen, full", x.freeze(0, 0, 3, 4), FreezeDif.FULL);
-    }
-
-    private static void wrongVariables() {
-        for (int count = 1; count <= 6; count++) {
-            FreezeDif x = Make.withCells(count);
-            int[] wrong = {-1, count, Integer.MIN_VALUE, Integer.MAX_VALUE};
-            for (int v : wrong) {
+    /** "v outside 0..V-1: BAD", before FULL too, and 0 and V-1 are taken. */
+    private static void variablesOutside() {
+        for (int variables = 1; variables <= 6; variables++) {
+            FreezeDif x = Make.withCells(variables);
+            for (int v : Make.outside(0, variables - 1)) {
                 Due.due("freeze on " + v, x.freeze(v, 0, 0, 0), FreezeDif.BAD);
+                Due.due("all wrong", x.freeze(v, v, v, v), FreezeDif.BAD);
             }
+            Due.due("no goal was added", x.forget(), 0);
             for (int g = 0; g < 4; g++) {
-                Due.due("freeze on the last", x.freeze(count - 1, 0, 0, 0), g);
+                int v = g % 2 == 0 ? variables - 1 : 0;
+                Due.due("freeze on " + v + " of " + variables, x.freeze(v, 0, 0, 0), g);
             }
-            Due.due("full, variable wrong", x.freeze(count, 0, 0, 0), FreezeDif.BAD);
+            for (int v : Make.outside(0, variables - 1)) {
+                Due.due("full, freeze on " + v, x.freeze(v, 0, 0, 0), FreezeDif.BAD);
+            }
+            Due.due("full, all in order", x.freeze(0, 0, 0, 0), FreezeDif.FULL);
         }
     }
 
-    private static void freezingChangesNoAnswer() {
-        FreezeDif plain = Make.withRows(3);
-        FreezeDif frozen = Make.withRows(3);
-        plain.goal(0, 3, 4);
-        plain.goal(0, 4, 5);
-        frozen.freeze(2, 0, 3, 4);
-        frozen.freeze(0, 0, 4, 5);
-        Due.due("solve", frozen.solve(), plain.solve());
-        for (int k = 0; k < 3; k++) {
-            for (int g = 0; g < 2; g++) {
-                Due.due("row", frozen.rowOf(k, g), plain.rowOf(k, g));
+    /** "frozen on variable v" asks for a number of 0..V-1 and not for a cell. */
+    private static void aVariableWithoutACell() {
+        for (int v = 0; v < 6; v++) {
+            FreezeDif x = Make.atoms(6, 1);
+            Due.due("no cell of variable " + v, x.freeze(v, 0, 0, 0), 0);
+            Due.due("the query is loose", x.solve(), FreezeDif.LOOSE);
+        }
+    }
+
+    /** "numbered in the order they are added, plain and frozen together", and FULL together. */
+    private static void plainAndFrozenAreNumberedTogether() {
+        for (int frozen = 0; frozen < 16; frozen++) {
+            FreezeDif x = Make.withCells(1);
+            for (int g = 0; g < 4; g++) {
+                Due.due("goal " + g, add(x, (frozen >> g & 1) == 1, 0, 3, 3), g);
             }
-            for (int v = 0; v < 3; v++) {
-                Due.due("value", frozen.valueOf(k, v), plain.valueOf(k, v));
-            }
+            Due.due("one more, plain", x.goal(0, 3, 3), FreezeDif.FULL);
+            Due.due("one more, frozen", x.freeze(0, 0, 3, 3), FreezeDif.FULL);
+            Due.due("goals", x.forget(), 4);
         }
     }
 }
